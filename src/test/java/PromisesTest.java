@@ -19,7 +19,6 @@ public final class PromisesTest {
     public static void main(String[] args) {
         newObject();
         tick();
-        tickUpToTheLastTime();
         forward();
         place();
         there();
@@ -92,20 +91,6 @@ public final class PromisesTest {
             due("2: tick(" + n + ")", bench.tick(n), -1);
             due("2: time after tick(" + n + ")", bench.look(0), 101);
         }
-    }
-
-    // It takes more than 512 calls to come there, where all is free; but a tick that is told to be
-    // refused is better refused there, too.
-    private static void tickUpToTheLastTime() {
-        ClaimBench bench = new ClaimBench();
-        for (int i = 1; i < 1000; i++) {
-            bench.tick(100);
-        }
-        due("2: near the end", bench.tick(99), 99999);
-        due("2: beyond the end", bench.tick(2), -1);
-        due("2: at the end", bench.tick(1), 100000);
-        due("2: past the end", bench.tick(1), -1);
-        due("2: time at the end", bench.look(0), 100000);
     }
 
     private static void forward() {
